@@ -489,7 +489,7 @@ public final class PinBarrel {
         history.keep(box);
         int before = box.pinsOfTune(tune);
         for (int tooth = 0; tooth < box.teeth; tooth++) {
-            box.pins[box.trackOf(tune, tooth)] = 0L;
+            box.putPinsOn(box.trackOf(tune, tooth), 0L);
         }
         return before;
     }
@@ -1010,6 +1010,12 @@ public final class PinBarrel {
             return track < 0 || track >= MAX_TRACKS ? 0L : pins[track];
         }
 
+        void putPinsOn(int track, long set) {
+            if (track >= 0 && track < MAX_TRACKS) {
+                pins[track] = set;
+            }
+        }
+
         boolean isPinned(int tune, int step, int tooth) {
             return Ring.holds(pinsOn(trackOf(tune, tooth)), step);
         }
@@ -1017,7 +1023,7 @@ public final class PinBarrel {
         void pinOrNot(int tune, int step, int tooth, boolean on) {
             int track = trackOf(tune, tooth);
             long bit = 1L << step;
-            pins[track] = on ? pins[track] | bit : pins[track] & ~bit;
+            putPinsOn(track, on ? pinsOn(track) | bit : pinsOn(track) & ~bit);
         }
 
         int allPins() {
@@ -1066,14 +1072,14 @@ public final class PinBarrel {
         void movePins(int tune, int by) {
             for (int tooth = 0; tooth < teeth; tooth++) {
                 int track = trackOf(tune, tooth);
-                pins[track] = Ring.moved(pins[track], by, steps);
+                putPinsOn(track, Ring.moved(pinsOn(track), by, steps));
             }
         }
 
         void mirrorPins(int tune) {
             for (int tooth = 0; tooth < teeth; tooth++) {
                 int track = trackOf(tune, tooth);
-                pins[track] = Ring.mirrored(pins[track], steps);
+                putPinsOn(track, Ring.mirrored(pinsOn(track), steps));
             }
         }
 
@@ -1286,7 +1292,7 @@ public final class PinBarrel {
                         return;
                     }
                     at--;
-                    lift(box, at);
+                    lift(box, order[at], chosen[at]);
                 } else {
                     if (tried >= MAX_TRIES) {
                         return;
@@ -1310,7 +1316,7 @@ public final class PinBarrel {
             count = 0;
             System.arraycopy(box.pins, 0, tracks, 0, MAX_TRACKS);
             for (int tooth = 0; tooth < box.teeth; tooth++) {
-                tracks[box.trackOf(tune, tooth)] = 0L;
+                putPinsOn(box.trackOf(tune, tooth), 0L);
             }
             for (int note = 0; note < box.notes.count; note++) {
                 if (box.notes.tune[note] == tune) {
@@ -1357,13 +1363,20 @@ public final class PinBarrel {
             return track < 0 || track >= MAX_TRACKS ? 0L : tracks[track];
         }
 
-        private void put(Box box, int note, int tooth) {
-            tracks[box.trackOf(box.notes.tune[note], tooth)] |= 1L << box.notes.step[note];
+        private void putPinsOn(int track, long set) {
+            if (track >= 0 && track < MAX_TRACKS) {
+                tracks[track] = set;
+            }
         }
 
-        private void lift(Box box, int at) {
-            int note = order[at];
-            tracks[box.trackOf(box.notes.tune[note], chosen[at])] &= ~(1L << box.notes.step[note]);
+        private void put(Box box, int note, int tooth) {
+            int track = box.trackOf(box.notes.tune[note], tooth);
+            putPinsOn(track, pinsOn(track) | 1L << box.notes.step[note]);
+        }
+
+        private void lift(Box box, int note, int tooth) {
+            int track = box.trackOf(box.notes.tune[note], tooth);
+            putPinsOn(track, pinsOn(track) & ~(1L << box.notes.step[note]));
         }
 
         int toothFor(int note) {
