@@ -410,12 +410,12 @@ public final class PinBarrel {
 
     public int bestTune() {
         int best = 0;
-        int fewest = Integer.MAX_VALUE;
+        int fewest = 0;
         for (int tune = 0; tune < box.tunes; tune++) {
             draft.copyFrom(box);
             draft.play.tune = tune;
             draft.pass(box.steps);
-            if (draft.play.buzzes < fewest) {
+            if (tune == 0 || draft.play.buzzes < fewest) {
                 fewest = draft.play.buzzes;
                 best = tune;
             }

@@ -24,6 +24,8 @@ final class ActionTest {
         Check.outside("dropNote(3)", () -> x.dropNote(3));
         Check.outside("dropNote(-1)", () -> x.dropNote(-1));
         Check.illegal("addNote(2, 0, 0)", () -> x.addNote(2, 0, 0));
+        Check.illegal("addNote(-1, 0, 0)", () -> x.addNote(-1, 0, 0));
+        Check.illegal("addNote(0, -1, 0)", () -> x.addNote(0, -1, 0));
         Check.illegal("addNote(0, 8, 0)", () -> x.addNote(0, 8, 0));
         Check.illegal("addNote(0, 0, 24)", () -> x.addNote(0, 0, 24));
         Check.illegal("addNote(0, 0, -1)", () -> x.addNote(0, 0, -1));
@@ -92,6 +94,7 @@ final class ActionTest {
         Check.same("none", x.size(6), 2);
         Check.same("actions", x.size(13), 4);
         Check.illegal("setPin(2, 0, 5, true)", () -> x.setPin(2, 0, 5, true));
+        Check.illegal("setPin(-1, 0, 5, true)", () -> x.setPin(-1, 0, 5, true));
         Check.illegal("setPin(0, 64, 5, true)", () -> x.setPin(0, 64, 5, true));
         Check.illegal("setPin(0, -1, 0, true)", () -> x.setPin(0, -1, 0, true));
         Check.outside("setPin(0, 0, 2, false)", () -> x.setPin(0, 0, 2, false));
@@ -172,6 +175,7 @@ final class ActionTest {
         Check.illegal("turn(0, 64)", () -> x.turn(0, 64));
         Check.illegal("turn(0, -1)", () -> x.turn(0, -1));
         Check.illegal("turn(2, 0)", () -> x.turn(2, 0));
+        Check.illegal("turn(-1, 0)", () -> x.turn(-1, 0));
         Check.illegal("reverse(2)", () -> x.reverse(2));
         Check.illegal("reverse(-1)", () -> x.reverse(-1));
     }

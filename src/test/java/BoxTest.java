@@ -100,11 +100,14 @@ final class BoxTest {
         Check.same("pinStep of another tune", x.pinStep(1, 0, 0), -1);
         Check.same("the last step", x.pinStep(1, 1, 0), 9);
         Check.illegal("pinStep(2, 5, 0)", () -> x.pinStep(2, 5, 0));
+        Check.illegal("pinStep(-1, 5, 0)", () -> x.pinStep(-1, 5, 0));
         Check.outside("pinStep(1, 3, 0)", () -> x.pinStep(1, 3, 0));
+        Check.outside("pinStep(1, -1, -1)", () -> x.pinStep(1, -1, -1));
         Check.same("chord(0, 4)", x.chord(0, 4), 5);
         Check.same("chord(1, 9)", x.chord(1, 9), 2);
         Check.same("chord(1, 4)", x.chord(1, 4), 0);
         Check.illegal("chord(2, 0)", () -> x.chord(2, 0));
+        Check.illegal("chord(-1, 0)", () -> x.chord(-1, 0));
         Check.illegal("chord(0, 10)", () -> x.chord(0, 10));
         Check.illegal("chord(0, -1)", () -> x.chord(0, -1));
         Check.same("fullest(0)", x.fullest(0), 4);
@@ -114,5 +117,6 @@ final class BoxTest {
         x.clear(0);
         Check.same("fullest without pins", x.fullest(0), -1);
         Check.illegal("fullest(2)", () -> x.fullest(2));
+        Check.illegal("fullest(-1)", () -> x.fullest(-1));
     }
 }

@@ -33,6 +33,7 @@ final class FaultTest {
         Check.illegal("conflicts(2)", () -> x.conflicts(2));
         Check.illegal("conflicts(-1)", () -> x.conflicts(-1));
         Check.illegal("conflict(2, 0, 0)", () -> x.conflict(2, 0, 0));
+        Check.illegal("conflict(-1, 0, 0)", () -> x.conflict(-1, 0, 0));
         Check.illegal("conflict(0, 9, 4)", () -> x.conflict(0, 9, 4));
         Check.illegal("conflict(0, 0, -1)", () -> x.conflict(0, 0, -1));
     }

@@ -19,9 +19,11 @@ final class OutputTest {
         written(x, x.writeStep(1, 4), "");
         written(x, x.writeTooth(1, 1), "ais1:........");
         Check.illegal("writeTooth(2, 9)", () -> x.writeTooth(2, 9));
+        Check.illegal("writeTooth(-1, 0)", () -> x.writeTooth(-1, 0));
         Check.outside("writeTooth(0, 3)", () -> x.writeTooth(0, 3));
         Check.outside("writeTooth(0, -1)", () -> x.writeTooth(0, -1));
         Check.illegal("writeStep(2, 0)", () -> x.writeStep(2, 0));
+        Check.illegal("writeStep(-1, 0)", () -> x.writeStep(-1, 0));
         Check.illegal("writeStep(0, 8)", () -> x.writeStep(0, 8));
         Check.illegal("writeStep(0, -1)", () -> x.writeStep(0, -1));
         written(x, 13, "ais1:........");
