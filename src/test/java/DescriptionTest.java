@@ -83,6 +83,11 @@ final class DescriptionTest {
         wrong(" speed 1", 1, 1, 0);
         wrong("barre 8 1 0", 0, 1, 0);
         wrong("barrell 8 1 0", 0, 1, 0);
+        wrong("barrelz 8 1 0", 0, 1, 0);
+        wrong("barrel{8 1 0", 6, 1, 0);
+        wrong("barrel`8 1 0", 6, 1, 0);
+        wrong("barrel:8 1 0", 6, 1, 0);
+        wrong("barrel 8/1 0", 8, 1, 0);
         wrong("Barrel 8 1 0", 0, 1, 0);
         wrong("barrel", 6, 1, 0);
         wrong("barrel 8 1", 10, 1, 0);
@@ -116,6 +121,8 @@ final class DescriptionTest {
         wrong(START + ";speed;", 18, 1, 1);
         wrong(START + ";tooth h 0 1", 19, 1, 1);
         wrong(START + ";tooth cisx 0 1", 19, 1, 1);
+        wrong(START + ";tooth cz 0 1", 19, 1, 1);
+        wrong(START + ";tooth za 0 1", 19, 1, 1);
         wrong(START + ";tooth 0 0 1", 19, 1, 1);
         wrong(START + ";tooth c 2 1", 21, 2, 1);
         wrong(START + ";tooth c01", 22, 1, 1);

@@ -9,12 +9,12 @@ import java.util.Random;
 /** Runs of drawn calls, with the same seeds each time, in which the class and the model must agree. */
 final class ModelTest {
     // Each call with the kinds of its arguments: u tune, s step, t tooth,
-    // n note, p pitch, i index, b boolean, or a range.
+    // n note, p pitch, i index, h number of a pluck, b boolean, or a range.
     private static final String[] QUESTIONS = {
         "loadError", "loadStatement", "size 0..13", "tooth t 0..7", "note n 0..3", "hasPin u s t", "pinStep u t i",
         "chord u s", "fullest u", "conflicts u", "conflict u i 0..3", "collision i 0..5", "missing u", "extra u",
         "isClean u", "tries u", "canLay u", "laidOn n", "spare u", "fastest u", "needed u", "wanted u", "bestTurn u",
-        "uses u p", "mostUsed u", "crowd u p 1..64", "silence u", "heard i 0..3", "ringsIn 1..200",
+        "uses u p", "mostUsed u", "crowd u p 1..64", "silence u", "heard h 0..3", "heard h 0..3", "ringsIn 1..200",
         "buzzesIn 1..200", "firstBuzz", "nextTooth", "bestTune", "wear t", "purity", "writeTooth u t",
         "writeStep u s", "outputByte i", "saveSnapshot 0..1", "size 12..12", "size 6..6", "size 10..11"};
     private static final String[] ACTIONS = {
@@ -173,6 +173,7 @@ final class ModelTest {
             case "n": return within(0, told.size(5) - 1);
             case "p": return random.nextInt(25) == 0 ? within(0, 23) : aPitch();
             case "i": return within(0, random.nextInt(3) == 0 ? 250 : 12);
+            case "h": return within(Math.max(0, told.size(10) - 105), told.size(10));
             case "b": return random.nextInt(3) > 0;
             default:
                 String[] ends = kind.split("\\.\\.");

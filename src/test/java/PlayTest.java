@@ -91,8 +91,31 @@ final class PlayTest {
         x.undo();
         Check.same("known again", x.heard(7, 0), 13);
         Check.same("unknown again", x.heard(8, 0), -1);
+        allKept();
         Check.illegal("heard(0, 4)", () -> x.heard(0, 4));
         Check.illegal("heard(99, -1)", () -> x.heard(99, -1));
+    }
+
+    /** All of the latest 100 plucks come back with undo and with a snapshot. */
+    private static void allKept() {
+        PinBarrel x = Check.box("barrel 8 1 0;tooth c 0 1;pin 0 0 0;pin 0 1 0;pin 0 2 0;pin 0 3 0;"
+                + "pin 0 4 0;pin 0 5 0;pin 0 6 0;pin 0 7 0");
+        x.run(130);
+        x.saveSnapshot(0);
+        x.run(60);
+        x.undo();
+        kept(x);
+        x.run(60);
+        x.restoreSnapshot(0);
+        kept(x);
+    }
+
+    private static void kept(PinBarrel x) {
+        Check.same("heard(29, 0)", x.heard(29, 0), -1);
+        for (int index = 30; index < 130; index++) {
+            Check.same("heard(" + index + ", 0)", x.heard(index, 0), index);
+        }
+        Check.same("heard(130, 0)", x.heard(130, 0), -1);
     }
 
     private static void bestTunes() {
