@@ -1,12 +1,18 @@
 /** Compares answers with those that are due, and counts the wrong ones. */
 final class Check {
     private static int wrong = 0;
+    private static String sentence = "";
 
     interface Call {
         void make();
     }
 
     private Check() {
+    }
+
+    /** The sentence of the document that the next calls look at; a fault is told under it. */
+    static void sentence(String text) {
+        sentence = "[" + text + "] ";
     }
 
     static void same(String call, long got, long want) {
@@ -56,7 +62,7 @@ final class Check {
     static void fault(String text) {
         wrong++;
         if (wrong <= 40) {
-            System.out.println(text);
+            System.out.println(sentence + text);
         }
     }
 
