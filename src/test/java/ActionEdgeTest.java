@@ -14,6 +14,7 @@ final class ActionEdgeTest {
         transposingOthers();
         turning();
         reversing();
+        sixtyNotes();
         speedsAndGaps();
         actionsWithoutChange();
         Check.end();
@@ -254,6 +255,27 @@ final class ActionEdgeTest {
             }
         }
         Check.same("Returns how many pins it has: none", new PinBarrel().reverse(0), 0);
+    }
+
+    private static void sixtyNotes() {
+        Check.sentence("Promises 45 to 47: all notes of a tune, also 60 of them");
+        PinBarrel x = Check.box("barrel 64 1 0");
+        for (int note = 0; note < 60; note++) {
+            x.addNote(0, note, note % 12);
+        }
+        Check.same("transpose", x.transpose(0, 12), 60);
+        for (int note = 0; note < 60; note++) {
+            Check.same("PITCH of note " + note, x.note(note, 2), 12 + note % 12);
+        }
+        Check.same("transpose too far", x.transpose(0, 1), PinBarrel.WRONG);
+        Check.same("turn", x.turn(0, 10), 0);
+        for (int note = 0; note < 60; note++) {
+            Check.same("step of note " + note, x.note(note, 1), (note + 10) % 64);
+        }
+        Check.same("reverse", x.reverse(0), 0);
+        for (int note = 0; note < 60; note++) {
+            Check.same("step of note " + note, x.note(note, 1), 63 - (note + 10) % 64);
+        }
     }
 
     private static void speedsAndGaps() {

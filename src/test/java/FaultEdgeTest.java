@@ -87,6 +87,11 @@ final class FaultEdgeTest {
             Check.same("the greatest number", x.conflict(0, Integer.MAX_VALUE, what), PinBarrel.NONE);
         }
         Check.sentence("3: a conflict of a tune is of the same tune and tooth");
+        PinBarrel z = Check.box("barrel 9 2 0;tooth c 0 4;tooth d 0 1;pin 0 7 0;pin 0 1 0;pin 0 8 1;pin 1 8 0");
+        Check.same("a pin of another tooth and one of another tune between", z.conflicts(0), 1);
+        Check.same("its first step", z.conflict(0, 0, 1), 7);
+        Check.same("its next step", z.conflict(0, 0, 2), 1);
+        Check.same("too short by", z.conflict(0, 0, 3), 1);
         Check.same("the other tune", x.conflicts(1), 1);
         Check.same("its tooth", x.conflict(1, 0, 0), 1);
         Check.same("its first step", x.conflict(1, 0, 1), 0);

@@ -22,6 +22,9 @@ final class ModelTest {
         "setPin u s t b", "setPin u s t b", "setPin u s t b", "clear u", "lay u", "lay u", "transpose u -23..23",
         "transpose u -2..2", "turn u s", "reverse u", "setSpeed 1..4", "setGap 0..3", "shift u", "run 1..200",
         "run 1..20", "run 1..20", "undo", "undo", "undo"};
+    private static final int CALLS_DRAWN = 350;
+    // What later calls answer is free.
+    private static final int CALLS_PROMISED = 512;
     private static final Map<String, Method> REAL = methods(PinBarrel.class);
     private static final Map<String, Method> TOLD = methods(Model.class);
 
@@ -39,7 +42,7 @@ final class ModelTest {
 
     public static void main(String[] args) throws IllegalAccessException {
         int from = args.length > 0 ? Integer.parseInt(args[0]) : 0;
-        int to = args.length > 1 ? Integer.parseInt(args[1]) : 300;
+        int to = args.length > 1 ? Integer.parseInt(args[1]) : 400;
         for (int seed = from; seed < to; seed++) {
             new ModelTest(seed).oneRun(seed);
         }
@@ -56,7 +59,7 @@ final class ModelTest {
 
     private void oneRun(int seed) throws IllegalAccessException {
         describe();
-        for (int i = 0; i < 300 && agree; i++) {
+        while (made.size() < CALLS_DRAWN && agree) {
             int kind = random.nextInt(100);
             if (kind < 1) {
                 describe();
@@ -191,6 +194,9 @@ final class ModelTest {
     }
 
     private void both(String name, Object... args) throws IllegalAccessException {
+        if (made.size() >= CALLS_PROMISED) {
+            return;
+        }
         String key = name + args.length;
         String got = answer(REAL.get(key), real, args);
         String want = answer(TOLD.get(key), told, args);

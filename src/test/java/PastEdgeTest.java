@@ -208,13 +208,13 @@ final class PastEdgeTest {
 
     private static void everythingRestored() {
         Check.sentence("Promise 59: Replaces everything");
-        PinBarrel x = Check.box("barrel 64 3 3;speed 4;tooth b 1 12;note 2 63 b 1;pin 2 63 0;pin 2 0 0");
+        PinBarrel x = Check.box("barrel 16 3 3;speed 4;tooth b 1 12;note 2 15 b 1;pin 2 15 0;pin 2 0 0");
         x.shift(2);
-        x.run(65);
+        x.run(17);
         x.saveSnapshot(1);
         String saved = Whole.now(x);
         String plucks = x.heard(0, 0) + " " + x.heard(1, 0) + " " + x.heard(2, 0) + " " + x.heard(3, 0);
-        Check.same("the plucks", plucks, "0 63 64 -1");
+        Check.same("the plucks", plucks, "0 15 16 -1");
         Check.load(x, "barrel 8 1 0;tooth c 0 1;pin 0 0 0");
         x.setRest(0, 12);
         x.run(200);
@@ -229,6 +229,6 @@ final class PastEdgeTest {
         Check.same("all of them", Whole.beside(x), "c0:o....... 3 2 2 0");
         Check.same("step 0", x.hasPin(2, 0, 0), true);
         x.run(1);
-        Check.same("it plays on", x.size(9), 66);
+        Check.same("it plays on", x.size(9), 18);
     }
 }

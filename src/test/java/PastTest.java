@@ -4,28 +4,15 @@ final class PastTest {
             + "pin 0 0 0;pin 0 1 1;pin 1 8 0";
 
     public static void main(String[] args) {
-        eachAction();
+        whatUndoLeaves();
         eightActions();
         snapshots();
         Check.end();
     }
 
-    private static void eachAction() {
+    private static void whatUndoLeaves() {
         PinBarrel x = Check.box(TEXT);
         x.run(3);
-        String before = state(x);
-        Check.Call[] actions = {() -> x.addNote(0, 0, 0), () -> x.dropNote(0), () -> x.addTooth(3, 3),
-            () -> x.setRest(0, 9), () -> x.retune(0, 9), () -> x.setPin(1, 1, 1, true),
-            () -> x.setPin(0, 0, 0, false), () -> x.clear(0), () -> x.lay(0), () -> x.transpose(0, 5),
-            () -> x.turn(0, 4), () -> x.reverse(0), () -> x.setSpeed(3), () -> x.setGap(3), () -> x.shift(1),
-            () -> x.run(100)};
-        for (int i = 0; i < actions.length; i++) {
-            actions[i].make();
-            Check.same("action " + i + " changes something", state(x).equals(before), false);
-            Check.same("action " + i + " can be taken back", x.size(13), 2);
-            Check.same("undo of action " + i, x.undo(), 1);
-            Check.same("after undo of action " + i, state(x), before);
-        }
         x.writeStep(0, 1);
         x.append(98);
         Check.same("undo", x.undo(), 0);

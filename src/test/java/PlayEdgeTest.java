@@ -323,6 +323,12 @@ final class PlayEdgeTest {
         Check.same("whatever the tune is", y.bestTune(), 0);
         y.setPin(0, 6, 0, true);
         Check.same("one buzz and then another one", y.bestTune(), 1);
+        PinBarrel z = Check.box("barrel 8 2 0;tooth c 0 8;pin 0 0 0;pin 0 7 0;pin 1 0 0");
+        z.run(1);
+        z.setPin(0, 0, 0, false);
+        Check.same("a buzz by what was plucked before", z.bestTune(), 1);
+        z.setRest(0, 7);
+        Check.same("a need that is over", z.bestTune(), 0);
     }
 
     private static void shifting() {
