@@ -161,7 +161,7 @@ final class DescriptionEdgeTest {
             Check.same("PITCH of the note " + told, x.note(0, 2), pitch);
         }
         Check.sentence("2: a word that is no NAME where one must be, too");
-        for (String word : new String[] {"h", "des", "ci", "ciss", "cc", "eis", "is", "s", "z", "tooth", "bb", "aisa"}) {
+        for (String word : new String[] {"h", "des", "ci", "ciss", "cc", "eis", "is", "s", "z", "tooth", "bb"}) {
             wrong(START + ";tooth " + word + " 0 1", 19, 1, 1);
             wrong(START + ";note 0 0 " + word + " 0", 22, 1, 1);
         }

@@ -162,7 +162,7 @@ final class FaultEdgeTest {
     }
 
     private static void collisionPlaces() {
-        Check.sentence("Promise 15: by the lower track, of the same one by its step, then by the step of the other one");
+        Check.sentence("Promise 15: by the lower track, by its step, then by the step of the other one");
         PinBarrel x = Check.box("barrel 64 2 3;tooth c 0 1;tooth c 0 1;"
                 + "pin 1 63 0;pin 1 0 0;pin 0 62 0;pin 0 1 0;pin 0 1 1;pin 0 63 1;pin 1 30 1");
         // Tracks: tune 0 of tooth 0, tune 1 of tooth 0, tune 0 of tooth 1, tune 1 of tooth 1.
